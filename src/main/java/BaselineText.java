@@ -315,8 +315,7 @@ public final class BaselineText {
         }
 
         int compare(Row other) {
-            int shared = Math.min(length, other.length);
-            for (int i = 0; i < shared; i++) {
+            for (int i = 0; i < length && i < other.length; i++) {
                 if (letters[i] != other.letters[i]) {
                     return letters[i] - other.letters[i];
                 }
@@ -379,6 +378,13 @@ public final class BaselineText {
 
     private static final class Type extends Declaration {
         final Shelf<Declaration> members = new Shelf<>(MOST_MEMBERS);
+
+        void addMember(Declaration draft) {
+            Declaration spare = members.takeSpare();
+            Declaration added = spare == null ? new Declaration() : spare;
+            added.copy(draft);
+            members.put(added);
+        }
     }
 
     /** Declarations in canonical order. Those no longer in use stand behind the count, to be used again. */
@@ -461,13 +467,6 @@ public final class BaselineText {
             added.members.empty();
             types.put(added);
             return added;
-        }
-
-        static void addMember(Type owner, Declaration draft) {
-            Declaration spare = owner.members.takeSpare();
-            Declaration added = spare == null ? new Declaration() : spare;
-            added.copy(draft);
-            owner.members.put(added);
         }
 
         void addForm(Row out) {
@@ -820,7 +819,7 @@ public final class BaselineText {
             if (owner.members.isFull()) {
                 return TOO_MANY;
             }
-            Baseline.addMember(owner, draft);
+            owner.addMember(draft);
             return FINE;
         }
     }
