@@ -5,7 +5,7 @@ import java.lang.reflect.Modifier;
 import java.util.TreeSet;
 
 /** The class shows what the document's face shows, and nothing else. */
-public final class FaceTest {
+public final class FaceTest extends Checks {
     private static final String FACE = String.join("\n",
             "public BaselineText()",
             "public int BaselineText.about(int,int,int)",
@@ -25,7 +25,6 @@ public final class FaceTest {
             "public void BaselineText.swap()");
 
     public static void main(String[] args) {
-        Checks checks = new Checks();
         TreeSet<String> seen = new TreeSet<>();
         for (Constructor<?> one : BaselineText.class.getDeclaredConstructors()) {
             note(seen, one.getModifiers(), one.toString());
@@ -36,10 +35,10 @@ public final class FaceTest {
         for (Field one : BaselineText.class.getDeclaredFields()) {
             note(seen, one.getModifiers(), one.toString());
         }
-        checks.due("the face", String.join("\n", seen), FACE);
-        checks.due("final class", Modifier.isFinal(BaselineText.class.getModifiers()) ? 1 : 0, 1);
-        checks.due("REFUSED", BaselineText.REFUSED, -1);
-        checks.end();
+        due("the face", String.join("\n", seen), FACE);
+        due("final class", Modifier.isFinal(BaselineText.class.getModifiers()) ? 1 : 0, 1);
+        due("REFUSED", BaselineText.REFUSED, -1);
+        end();
     }
 
     private static void note(TreeSet<String> seen, int modifiers, String member) {

@@ -1,5 +1,5 @@
 /** Long runs of calls on objects and on models of them, with texts that are nearly right. */
-public final class ModelTest {
+public final class ModelTest extends Checks {
     private static final int RUNS = 1000;
     private static final String[] FIRST = {"#sig 1", "#sig 2", "#sig 2 ", " #sig 1", "#sig 3", "#sig", "#sig 1 2", "", "! x", "class A"};
     private static final String[] TYPE_WORDS = {"public", "abstract", "final", "class", "interface", "enum", "record", "static", "field"};
@@ -10,7 +10,6 @@ public final class ModelTest {
     private static final String[] DESCRIPTORS = {"I", "J", "[I", "La;", "La/b;", "La$;", "La%$;", "V", "II", "()V", "()I", "(I)V", "(La;[J)La;", "(L%$;)V",
         "(V)V", "(I", "()", "[", "L;", "[La/b;", "(IIIIIIIIIIIIIIIII)V", "(IIIIIIIIIIIIIIIIII)V", "[[[[[[[[[[[[[[[[[[[I", "[[[[[[[[[[[[[[[[[[[[I"};
 
-    private static final Checks CHECKS = new Checks();
     private static long seed = 20261115L;
 
     public static void main(String[] args) {
@@ -23,7 +22,7 @@ public final class ModelTest {
                 step(run, x, model);
             }
         }
-        CHECKS.end();
+        end();
     }
 
     private static int below(int bound) {
@@ -37,52 +36,52 @@ public final class ModelTest {
 
     private static void typeBoth(BaselineText x, Model model, String text) {
         if (below(10) != 0) {
-            CHECKS.due("clear", x.clear(), model.clear());
+            due("clear", x.clear(), model.clear());
         }
         for (int start = 0; start < text.length();) {
             int n = 1 + below(8);
             String part = text.substring(start, Math.min(text.length(), start + n));
-            long value = Checks.packed(part);
-            CHECKS.due("type " + part, x.type(value, part.length()), model.type(value, part.length()));
+            long value = packed(part);
+            due("type " + part, x.type(value, part.length()), model.type(value, part.length()));
             start += n;
         }
     }
 
     private static void step(int run, BaselineText x, Model model) {
         int baseline = below(2);
-        String before = Checks.textOf(x);
-        CHECKS.due(run + ": read " + before, x.read(baseline), model.read(baseline));
+        String before = textOf(x);
+        due(run + ": read " + before, x.read(baseline), model.read(baseline));
         compareAll(run, x, model, before);
         if (below(3) == 0) {
             int format = 1 + below(2);
-            CHECKS.due(run + ": format", x.format(baseline, format), model.format(baseline, format));
+            due(run + ": format", x.format(baseline, format), model.format(baseline, format));
         }
         if (below(3) == 0) {
             x.swap();
             model.swap();
         }
         int written = below(2);
-        CHECKS.due(run + ": write", x.write(written), model.write(written));
+        due(run + ": write", x.write(written), model.write(written));
         if (below(3) == 0) {
-            CHECKS.due(run + ": read of what was written", x.read(1 - written), model.read(1 - written));
+            due(run + ": read of what was written", x.read(1 - written), model.read(1 - written));
         }
         compareAll(run, x, model, before);
     }
 
     private static void compareAll(int run, BaselineText x, Model model, String of) {
         String at = run + ": of [" + of + "] ";
-        CHECKS.due(at + "differ", x.differ(), model.differ());
+        due(at + "differ", x.differ(), model.differ());
         for (int i = -1; i < 482; i++) {
-            CHECKS.due(at + "text " + i, x.text(i), model.text(i));
+            due(at + "text " + i, x.text(i), model.text(i));
         }
         for (int i = -1; i < 21; i++) {
             for (int what = -1; what < 4; what++) {
-                CHECKS.due(at + "diagnostic " + i + " " + what, x.diagnostic(i, what), model.diagnostic(i, what));
+                due(at + "diagnostic " + i + " " + what, x.diagnostic(i, what), model.diagnostic(i, what));
             }
         }
         for (int b = -1; b < 3; b++) {
-            CHECKS.due(at + "lost " + b, x.lost(b), model.lost(b));
-            CHECKS.due(at + "types " + b, x.types(b), model.types(b));
+            due(at + "lost " + b, x.lost(b), model.lost(b));
+            due(at + "types " + b, x.types(b), model.types(b));
             for (int t = -1; t <= Math.max(0, model.types(b)); t++) {
                 compareType(at, x, model, b, t);
             }
@@ -91,17 +90,17 @@ public final class ModelTest {
 
     private static void compareType(String at, BaselineText x, Model model, int b, int t) {
         for (int what = -1; what < 5; what++) {
-            CHECKS.due(at + "about " + b + " " + t + " " + what, x.about(b, t, what), model.about(b, t, what));
+            due(at + "about " + b + " " + t + " " + what, x.about(b, t, what), model.about(b, t, what));
         }
         for (int m = -1; m <= Math.max(0, model.about(b, t, 2)); m++) {
             for (int what = -1; what < 5; what++) {
                 String call = "member " + b + " " + t + " " + m + " " + what;
-                CHECKS.due(at + call, x.member(b, t, m, what), model.member(b, t, m, what));
+                due(at + call, x.member(b, t, m, what), model.member(b, t, m, what));
             }
             for (int which = -2; which < 3; which++) {
                 for (int i = -1; i < 22; i++) {
                     String call = "character " + b + " " + t + " " + m + " " + which + " " + i;
-                    CHECKS.due(at + call, x.character(b, t, m, which, i), model.character(b, t, m, which, i));
+                    due(at + call, x.character(b, t, m, which, i), model.character(b, t, m, which, i));
                 }
             }
         }

@@ -1,8 +1,5 @@
-/** The promises 1 to 15, one method each: ordinary inputs, edges and wrong inputs. Reading has its own test. */
-public final class PromisesTest {
-    private static final Checks CHECKS = new Checks();
-    private static final int REFUSED = BaselineText.REFUSED;
-
+/** The promises 1 to 15, one method each, as they are used; reading and the boundaries have tests of their own. */
+public final class PromisesTest extends Checks {
     /** Two types, the second one with members out of order. */
     private static final String SAMPLE = "#sig 2\n"
             + "final public class b.B$C\n"
@@ -23,12 +20,10 @@ public final class PromisesTest {
     public static void main(String[] args) {
         promise1NewObject();
         promise2Type();
-        promise2TypeFull();
         promise3Clear();
         promise4Read();
         promise5Write();
         promise5WriteAllWords();
-        promise5WriteTooLong();
         promise6Format();
         promise7Text();
         promise8Diagnostic();
@@ -40,24 +35,7 @@ public final class PromisesTest {
         promise14Lost();
         promise14LostAcrossFormats();
         promise15Swap();
-        CHECKS.end();
-    }
-
-    private static void due(String what, long got, long want) {
-        CHECKS.due(what, got, want);
-    }
-
-    private static void due(String what, String got, String want) {
-        CHECKS.due(what, got, want);
-    }
-
-    /** An object with the two texts read as baselines 0 and 1. */
-    private static BaselineText pair(String text0, String text1) {
-        BaselineText x = Checks.typed(text0);
-        x.read(0);
-        Checks.retype(x, text1);
-        x.read(1);
-        return x;
+        end();
     }
 
     private static BaselineText sample() {
@@ -78,23 +56,23 @@ public final class PromisesTest {
         BaselineText y = new BaselineText();
         due("another new one: format(0)", y.format(0, 2), 2);
         due("another new one: write", y.write(1), 7);
-        due("another new one: text", Checks.textOf(y), "#sig 2\n");
+        due("another new one: text", textOf(y), "#sig 2\n");
     }
 
     private static void promise2Type() {
         BaselineText x = new BaselineText();
         due("type one", x.type('a', 1), 1);
         due("type the lowest bytes only", x.type(0xFF00000000414243L, 3), 4);
-        due("type eight", x.type(Checks.packed("12345678"), 8), 12);
-        due("typed", Checks.textOf(x), "aABC12345678");
+        due("type eight", x.type(packed("12345678"), 8), 12);
+        due("typed", textOf(x), "aABC12345678");
         due("type n 0", x.type('a', 0), REFUSED);
-        due("type n 9", x.type(Checks.packed("12345678"), 9), REFUSED);
+        due("type n 9", x.type(packed("12345678"), 9), REFUSED);
         due("type n -1", x.type('a', -1), REFUSED);
         due("type n least", x.type('a', Integer.MIN_VALUE), REFUSED);
         due("type n greatest", x.type('a', Integer.MAX_VALUE), REFUSED);
         due("type a code 0 in front", x.type('a', 2), REFUSED);
-        due("type a bad one last", x.type(Checks.packed("ab\t"), 3), REFUSED);
-        due("type a bad one first", x.type(Checks.packed("\u00e9ab"), 3), REFUSED);
+        due("type a bad one last", x.type(packed("ab\t"), 3), REFUSED);
+        due("type a bad one first", x.type(packed("\u00e9ab"), 3), REFUSED);
         due("type -1", x.type(-1L, 8), REFUSED);
         for (int code = 0; code < 256; code++) {
             boolean taken = code == 10 || (code >= 32 && code <= 126);
@@ -102,22 +80,11 @@ public final class PromisesTest {
             due("type code " + code, fresh.type(code, 1), taken ? 1 : REFUSED);
             due("text of code " + code, fresh.text(0), taken ? code : -1);
         }
-        due("refused ones added nothing", Checks.textOf(x), "aABC12345678");
-    }
-
-    private static void promise2TypeFull() {
-        BaselineText x = new BaselineText();
-        due("type 476", Checks.retype(x, "x".repeat(476)), 476);
-        due("type beyond 480", x.type(Checks.packed("abcde"), 5), REFUSED);
-        due("type up to 480", x.type(Checks.packed("abcd"), 4), 480);
-        due("type at 480", x.type('e', 1), REFUSED);
-        due("text(479)", x.text(479), 'd');
-        due("clear 480", x.clear(), 480);
-        due("type after clear", x.type('e', 1), 1);
+        due("refused ones added nothing", textOf(x), "aABC12345678");
     }
 
     private static void promise3Clear() {
-        BaselineText x = Checks.typed("class A\n nonsense\n");
+        BaselineText x = typed("class A\n nonsense\n");
         x.read(0);
         due("clear", x.clear(), 18);
         due("clear again", x.clear(), 0);
@@ -127,26 +94,26 @@ public final class PromisesTest {
     }
 
     private static void promise4Read() {
-        BaselineText x = Checks.typed(SAMPLE);
+        BaselineText x = typed(SAMPLE);
         due("read(2)", x.read(2), REFUSED);
         due("read(-1)", x.read(-1), REFUSED);
         due("read(0)", x.read(0), 0);
         due("the other baseline stays", x.types(1), 0);
-        due("read keeps the text", Checks.textOf(x), SAMPLE);
-        Checks.retype(x, "#sig 1\nenum E\nclas\n");
+        due("read keeps the text", textOf(x), SAMPLE);
+        retype(x, "#sig 1\nenum E\nclas\n");
         due("read in place", x.read(0), 1);
         due("types then", x.types(0), 1);
         due("no member of an earlier one", x.about(0, 0, 2), 0);
         due("format then", x.format(0, 1), 1);
         due("refused read", x.read(3), REFUSED);
         due("refused read keeps types", x.types(0), 1);
-        due("refused read keeps diagnostics", Checks.diagnosticsOf(x), "3@3:1");
+        due("refused read keeps diagnostics", diagnosticsOf(x), "3@3:1");
         x.clear();
         due("read nothing", x.read(0), 0);
         due("diagnostics are of the last reading", x.diagnostic(0, 0), REFUSED);
         due("types of nothing", x.types(0), 0);
         due("format of nothing", x.format(0, 1), 2);
-        Checks.retype(x, "x\n".repeat(40));
+        retype(x, "x\n".repeat(40));
         due("read answers more than are kept", x.read(1), 41);
     }
 
@@ -156,12 +123,12 @@ public final class PromisesTest {
         due("write(-1)", x.write(-1), REFUSED);
         due("refused write keeps the text", x.text(0), -1);
         due("write", x.write(0), SAMPLE_IN_2.length());
-        due("form in format 2", Checks.textOf(x), SAMPLE_IN_2);
+        due("form in format 2", textOf(x), SAMPLE_IN_2);
         due("read again", x.read(1), 0);
         due("the same", x.differ(), 0);
         x.format(0, 1);
         due("write in format 1", x.write(0), SAMPLE_IN_2.length() + 5);
-        due("form in format 1", Checks.textOf(x), SAMPLE_IN_2.replace("$", "%$").replace("sig 2", "sig 1"));
+        due("form in format 1", textOf(x), SAMPLE_IN_2.replace("$", "%$").replace("sig 2", "sig 1"));
         due("read format 1 again", x.read(1), 0);
         due("the same in format 1", x.differ(), 0);
         due("order of names", formOf("class b\nclass a.b\nclass aa\nclass a\nclass a_\nclass a$\nclass B\n"),
@@ -180,39 +147,10 @@ public final class PromisesTest {
     }
 
     private static String formOf(String text) {
-        BaselineText x = Checks.typed(text);
+        BaselineText x = typed(text);
         x.read(0);
         x.write(0);
-        return Checks.textOf(x);
-    }
-
-    private static void promise5WriteTooLong() {
-        BaselineText x = pair(crowded(7), "");
-        due("form of 480", x.write(0), 480);
-        x = pair(crowded(8), "enum keep");
-        due("form of 481", x.write(0), REFUSED);
-        due("the text stays", Checks.textOf(x), "enum keep");
-        due("the baseline stays", x.types(0), 5);
-        due("what is too long to write has lines all the same", x.lost(0), 5 + 36);
-        due("and differs", x.differ(), 2);
-        Checks.retype(x, crowded(8));
-        x.read(1);
-        due("and is the same as its like", x.differ(), 0);
-    }
-
-    /**
-     * A text whose form is longer, having a line for the format and two blanks before members: it has
-     * 430 characters and the last type's name, and its form has 473 and that name.
-     */
-    private static String crowded(int lengthOfLastName) {
-        StringBuilder all = new StringBuilder();
-        for (String name : new String[] {"a", "b", "c", "d", "e".repeat(lengthOfLastName)}) {
-            all.append("enum ").append(name).append('\n');
-            for (int m = 0; m < (name.startsWith("e") ? 4 : 8); m++) {
-                all.append(" field ").append((char) ('a' + m)).append(" I\n");
-            }
-        }
-        return all.toString();
+        return textOf(x);
     }
 
     private static void promise6Format() {
@@ -225,25 +163,25 @@ public final class PromisesTest {
         due("format -1", x.format(0, -1), REFUSED);
         due("baseline 2", x.format(2, 1), REFUSED);
         due("baseline -1", x.format(-1, 1), REFUSED);
-        due("names stay", Checks.nameOf(x, 0, 1, 0, -1), "b.B$C");
+        due("names stay", nameOf(x, 0, 1, 0, -1), "b.B$C");
         due("refused ones changed nothing", x.format(0, 2), 1);
         due("back at 2", x.format(0, 2), 2);
     }
 
     private static void promise7Text() {
-        BaselineText x = Checks.typed("ab\n");
+        BaselineText x = typed("ab\n");
         due("text(0)", x.text(0), 'a');
         due("text(2)", x.text(2), 10);
         due("text(3)", x.text(3), -1);
         due("text(-1)", x.text(-1), -1);
         due("text least", x.text(Integer.MIN_VALUE), -1);
         due("text greatest", x.text(Integer.MAX_VALUE), -1);
-        Checks.retype(x, "z");
+        retype(x, "z");
         due("nothing of a longer text before", x.text(1), -1);
     }
 
     private static void promise8Diagnostic() {
-        BaselineText x = Checks.typed("#sig 2\n\nclass A  b\n");
+        BaselineText x = typed("#sig 2\n\nclass A  b\n");
         x.read(0);
         due("number", x.diagnostic(0, 0), 6);
         due("line", x.diagnostic(0, 1), 3);
@@ -254,7 +192,7 @@ public final class PromisesTest {
         due("index -1", x.diagnostic(-1, 0), REFUSED);
         due("index least", x.diagnostic(Integer.MIN_VALUE, 0), REFUSED);
         due("index greatest", x.diagnostic(Integer.MAX_VALUE, 0), REFUSED);
-        Checks.retype(x, "#sig 2\n" + "x\n".repeat(25));
+        retype(x, "#sig 2\n" + "x\n".repeat(25));
         due("read 25", x.read(1), 25);
         due("line of the 20th", x.diagnostic(19, 1), 21);
         due("no 21st is kept", x.diagnostic(20, 0), REFUSED);
@@ -297,7 +235,7 @@ public final class PromisesTest {
     }
 
     private static int readInto0(BaselineText x, String text) {
-        Checks.retype(x, text);
+        retype(x, text);
         return x.read(0);
     }
 
@@ -324,13 +262,13 @@ public final class PromisesTest {
 
     private static void promise12Character() {
         BaselineText x = sample();
-        due("type name 0", Checks.nameOf(x, 0, 0, 0, -1), "a");
-        due("type name 1", Checks.nameOf(x, 0, 1, 0, -1), "b.B$C");
+        due("type name 0", nameOf(x, 0, 0, 0, -1), "a");
+        due("type name 1", nameOf(x, 0, 1, 0, -1), "b.B$C");
         due("m means nothing for a type", x.character(0, 1, -7, -1, 0), 'b');
         due("m means nothing for a type", x.character(0, 0, 99, -1, 0), 'a');
-        due("member name", Checks.nameOf(x, 0, 1, 0, 0), "<init>");
-        due("descriptor", Checks.nameOf(x, 0, 1, 3, 1), "(I[La/b$;)V");
-        due("descriptors in order", Checks.nameOf(x, 0, 1, 1, 1) + Checks.nameOf(x, 0, 1, 2, 1), "IJ");
+        due("member name", nameOf(x, 0, 1, 0, 0), "<init>");
+        due("descriptor", nameOf(x, 0, 1, 3, 1), "(I[La/b$;)V");
+        due("descriptors in order", nameOf(x, 0, 1, 1, 1) + nameOf(x, 0, 1, 2, 1), "IJ");
         due("index -1", x.character(0, 1, 0, 0, -1), -1);
         due("index behind", x.character(0, 1, 0, 0, 6), -1);
         due("index least", x.character(0, 1, 0, 1, Integer.MIN_VALUE), -1);
@@ -343,14 +281,6 @@ public final class PromisesTest {
         due("t -1", x.character(0, -1, 0, -1, 0), -1);
         due("baseline 1 has none", x.character(1, 0, 0, -1, 0), -1);
         due("baseline 2", x.character(2, 0, 0, -1, 0), -1);
-    }
-
-    private static int difference(String text0, String text1) {
-        BaselineText x = pair(text0, text1);
-        int found = x.differ();
-        x.swap();
-        due("differ the other way round", x.differ(), found);
-        return found;
     }
 
     private static void promise13Differ() {
@@ -420,16 +350,16 @@ public final class PromisesTest {
         x.swap();
         due("types(0)", x.types(0), 1);
         due("types(1)", x.types(1), 2);
-        due("name", Checks.nameOf(x, 0, 0, 0, -1), "c");
-        due("diagnostics stay", Checks.diagnosticsOf(x), "3@3:2");
-        due("the text stays", Checks.textOf(x), "#sig 2\nenum c\n z\n");
+        due("name", nameOf(x, 0, 0, 0, -1), "c");
+        due("diagnostics stay", diagnosticsOf(x), "3@3:2");
+        due("the text stays", textOf(x), "#sig 2\nenum c\n z\n");
         due("format(0)", x.format(0, 2), 2);
         due("format(1)", x.format(1, 1), 1);
-        Checks.retype(x, "record d");
+        retype(x, "record d");
         x.read(0);
         due("reading changes one only", x.types(1), 2);
         x.swap();
         due("swapped back", x.types(0), 2);
-        due("swapped back", Checks.nameOf(x, 1, 0, 0, -1), "d");
+        due("swapped back", nameOf(x, 1, 0, 0, -1), "d");
     }
 }

@@ -2,29 +2,28 @@ import com.sun.management.ThreadMXBean;
 import java.lang.management.ManagementFactory;
 
 /** All calls of a run share one room, so the dearest calls, made 512 times, have to stay far below it. */
-public final class RoomTest {
+public final class RoomTest extends Checks {
     /** The room's 7.3 million elements of two bytes or more would be 14 million bytes at the very least. */
     private static final long MOST_BYTES = 2_000_000;
     private static final ThreadMXBean THREADS = (ThreadMXBean) ManagementFactory.getThreadMXBean();
 
     public static void main(String[] args) {
-        Checks checks = new Checks();
         String[] texts = {crowded("I"), crowded("J")};
         spend(texts);
         long before = THREADS.getThreadAllocatedBytes(Thread.currentThread().getId());
         spend(texts);
         long spent = THREADS.getThreadAllocatedBytes(Thread.currentThread().getId()) - before;
         if (spent > MOST_BYTES) {
-            checks.due("bytes of a run, above the limit", spent, MOST_BYTES);
+            due("bytes of a run, above the limit", spent, MOST_BYTES);
         }
-        checks.end();
+        end();
     }
 
     /** Both texts are full of short lines; each call but the typing of them is one of the dearest. */
     private static void spend(String[] texts) {
         BaselineText x = new BaselineText();
         for (int round = 0; round < 4; round++) {
-            Checks.retype(x, texts[round % 2]);
+            retype(x, texts[round % 2]);
             for (int i = 0; i < 64; i++) {
                 x.read(i % 2);
             }
