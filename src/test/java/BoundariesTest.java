@@ -11,6 +11,8 @@ public final class BoundariesTest extends Checks {
     private static final String NAME20 = "abcdefghijklmnopqrst";
     private static final String DESCRIPTOR20 = "[[[[[[[[[[[[[[[[[[[I";
 
+    /** What busy() makes: its state as stateOf() tells it, and its baselines' forms. */
+    private static final String BUSY_STATE = "text enum z\n\ndiagnostics 1@1:1 3@3:1\n0 1{2 4 $(1 4 m ()V)}\n1 2{0 0 b(0 0 f L$;)}{3 0 c}";
     private static final String BUSY_FORM0 = "#sig 1\nfinal enum %$\n  static method m ()V\n";
     private static final String BUSY_FORM1 = "#sig 2\nclass b\n  field f L$;\nrecord c\n";
 
@@ -191,9 +193,9 @@ public final class BoundariesTest extends Checks {
             due("room for 480 again", retype(x, "y".repeat(480)), 480);
         }
         BaselineText x = busy();
-        String before = stateOf(x);
+        due("cleared, then typed", stateOf(x), BUSY_STATE);
         due("clear", x.clear(), 7);
-        due("nothing but the text is emptied", stateOf(x), before.replace("enum z\n", ""));
+        due("nothing but the text is emptied", stateOf(x), BUSY_STATE.replace("enum z\n", ""));
         x.write(0);
         due("clear of what was written", x.clear(), BUSY_FORM0.length());
     }

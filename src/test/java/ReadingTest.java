@@ -311,20 +311,23 @@ public final class ReadingTest extends Checks {
         due("reading goes on behind the 20th", x.types(0), 1);
     }
 
-    /** Nothing of longer names that stood there before counts. */
     private static void rereading() {
+        sentence("in place of what it had: nothing of longer names that stood there before counts");
         String shorter = TOP + "enum a\n  field f I\n  field fg I\nenum ab\n  field f [I\n";
+        String backwards = TOP + "enum ab\n  field f [I\nenum a\n  field fg I\n  field f I\n";
         for (String tail : new String[] {"z", "$", "g$"}) {
-            BaselineText x = typed(TOP + "enum a#\n field f# [[I\n field g# I\nenum b#\n field f# I\n".replace("#", tail));
-            x.read(0);
-            retype(x, shorter);
-            due("read in place of longer names", x.read(0), 0);
-            due("write", x.write(0), shorter.length());
-            due("form", textOf(x), shorter);
-            x.read(1);
-            due("the same", x.differ(), 0);
-            x.format(1, 1);
-            due("no $ left", x.lost(0), 0);
+            for (String text : new String[] {shorter, backwards}) {
+                BaselineText x = typed(TOP + "enum a#\n field f# [[I\n field g# I\nenum b#\n field f# I\n field g# I\n".replace("#", tail));
+                x.read(0);
+                retype(x, text);
+                due("read in place of longer names", x.read(0), 0);
+                due("write", x.write(0), shorter.length());
+                due("form", textOf(x), shorter);
+                x.read(1);
+                due("the same", x.differ(), 0);
+                x.format(1, 1);
+                due("no $ left", x.lost(0), 0);
+            }
         }
     }
 }
