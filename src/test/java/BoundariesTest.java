@@ -1,7 +1,7 @@
 import java.util.function.Consumer;
 import java.util.function.ToIntFunction;
 
-/** The promises 1 to 15, sentence by sentence, at the boundaries that they name. */
+/** An object's 512 calls, and the promises 1 to 15, sentence by sentence, at the boundaries that they name. */
 public final class BoundariesTest extends Checks {
     /** Some of them would be 0, 1 or 2 if only their lowest bits were looked at. */
     private static final int[] NO_BASELINES = {-1, 2, 3, -2, 256, 257, 65536, 65537, Integer.MIN_VALUE, Integer.MIN_VALUE + 1, Integer.MAX_VALUE};
@@ -17,6 +17,7 @@ public final class BoundariesTest extends Checks {
     private static final String BUSY_FORM1 = "#sig 2\nclass b\n  field f L$;\nrecord c\n";
 
     public static void main(String[] args) {
+        fiveHundredAndTwelveCalls();
         promise1Empty();
         promise1Apart();
         promise2LowestBytes();
@@ -79,6 +80,23 @@ public final class BoundariesTest extends Checks {
         String before = stateOf(x);
         due(what, call.applyAsInt(x), REFUSED);
         due("the state behind " + what, stateOf(x), before);
+    }
+
+    private static void fiveHundredAndTwelveCalls() {
+        sentence("An object is used for at most 512 calls after it has been made");
+        BaselineText x = new BaselineText();
+        for (int call = 1; call <= 512; call++) {
+            due("call " + call + ", type", x.type('x', 1), call <= 480 ? call : REFUSED);
+        }
+        x = new BaselineText();
+        x.type(packed("enum a$\n"), 8);
+        for (int call = 2; call <= 508; call++) {
+            due("call " + call + ", read", x.read(call % 2), 1);
+        }
+        x.swap();
+        due("call 510, format", x.format(0, 1), 2);
+        due("call 511, write", x.write(0), 16);
+        due("call 512, lost", x.lost(1), 1);
     }
 
     private static void promise1Empty() {
